@@ -9,6 +9,7 @@ public final class AvenueNods {
     private static final int PLACES = 6;
     private static final int SIDES = 2;
     private static final int MESSAGES = 8;
+    private static final int ALL_MESSAGES = (1 << MESSAGES) - 1;
     private static final int OLDEST = 999;
     private static final int LAST_YEAR = 9999;
     private static final int MOST_YEARS = 100;
@@ -36,8 +37,6 @@ public final class AvenueNods {
     private static final int SIZE = 6;
     private static final int FIRST_FINDING = -1000000001;
 
-    /** The YEAR since which a TREE knows what it doesn't know. */
-    private static final int NEVER = -1;
     /** In how many YEARS that comes which doesn't come within FAR: later than all. */
     private static final int TOO_LATE = FAR + 1;
 
@@ -76,7 +75,7 @@ public final class AvenueNods {
             case 4:
                 return real.hears(tree, false) ? 1 : 0;
             case 5:
-                return real.knownBy(tree);
+                return real.known[tree];
             default:
                 return finding(BEYOND);
         }
@@ -202,7 +201,7 @@ public final class AvenueNods {
         }
         suppose();
         trial.passYears(n);
-        return trial.knownBy(tree);
+        return trial.known[tree];
     }
 
     public int when(int tree, int message) {
@@ -464,7 +463,7 @@ public final class AvenueNods {
         }
         suppose();
         for (int i = 0; i < sheets[s].size; i++) {
-            sheets[s].put(i, trial.knownBy(tree));
+            sheets[s].put(i, trial.known[tree]);
             trial.passYears(1);
         }
         return sheets[s].size;
@@ -614,14 +613,14 @@ public final class AvenueNods {
                     learntIn[tree] = years;
                 }
             }
-            trial.passYear(message, message + 1);
+            trial.passYear(1 << message);
         }
     }
 
     /** Whether a TREE of trial, as it goes on, knows just what the sheet tells. */
     private boolean goesAsWritten(Sheet sheet, int tree) {
         for (int i = 0; i < sheet.size; i++) {
-            if (sheet.numbers[i] != trial.knownBy(tree)) {
+            if (sheet.numbers[i] != trial.known[tree]) {
                 return false;
             }
             trial.passYears(1);
@@ -636,12 +635,13 @@ public final class AvenueNods {
         int introduced = (1 << PLACES) - 1;
         final int[] kinds = new int[TREES];
         final int[] ages = new int[TREES];
-        /** Since when each TREE knows each message, MESSAGES for a TREE. */
+        /** The messages that each TREE knows, as a set. */
+        final int[] known = new int[TREES];
+        /** Since when each TREE knows each message, MESSAGES for a TREE; it tells nothing of those not known. */
         private final int[] learnt = new int[TREES * MESSAGES];
 
         Avenue() {
             Arrays.fill(ages, 40);
-            Arrays.fill(learnt, NEVER);
         }
 
         void become(Avenue other) {
@@ -649,15 +649,14 @@ public final class AvenueNods {
             introduced = other.introduced;
             System.arraycopy(other.kinds, 0, kinds, 0, TREES);
             System.arraycopy(other.ages, 0, ages, 0, TREES);
+            System.arraycopy(other.known, 0, known, 0, TREES);
             System.arraycopy(other.learnt, 0, learnt, 0, TREES * MESSAGES);
         }
 
         void setAnew(int tree, int kind, int newAge) {
             kinds[tree] = kind;
             ages[tree] = newAge;
-            for (int message = 0; message < MESSAGES; message++) {
-                lose(tree, message);
-            }
+            known[tree] = 0;
         }
 
         // -- what is known
@@ -667,50 +666,36 @@ public final class AvenueNods {
         }
 
         boolean knows(int tree, int message) {
-            return learnt[tree * MESSAGES + message] != NEVER;
+            return (known[tree] >> message & 1) == 1;
         }
 
         void learn(int tree, int message) {
+            known[tree] |= 1 << message;
             learnt[tree * MESSAGES + message] = year;
         }
 
         void lose(int tree, int message) {
-            learnt[tree * MESSAGES + message] = NEVER;
-        }
-
-        boolean knowsFor(int tree, int message, int span) {
-            int since = learnt[tree * MESSAGES + message];
-            return since != NEVER && year - since >= span;
-        }
-
-        int knownBy(int tree) {
-            int set = 0;
-            for (int message = 0; message < MESSAGES; message++) {
-                if (knows(tree, message)) {
-                    set |= 1 << message;
-                }
-            }
-            return set;
+            known[tree] &= ~(1 << message);
         }
 
         int knownAtTerrace() {
-            return knownBy(treeAt(PLACES - 1, 0)) | knownBy(treeAt(PLACES - 1, 1));
+            return known[treeAt(PLACES - 1, 0)] | known[treeAt(PLACES - 1, 1)];
         }
 
         int knownByAny() {
             int set = 0;
             for (int tree = 0; tree < TREES; tree++) {
-                set |= knownBy(tree);
+                set |= known[tree];
             }
             return set;
         }
 
         int knownInAll() {
-            int known = 0;
+            int all = 0;
             for (int tree = 0; tree < TREES; tree++) {
-                known += Integer.bitCount(knownBy(tree));
+                all += Integer.bitCount(known[tree]);
             }
-            return known;
+            return all;
         }
 
         int knowers(int message) {
@@ -726,7 +711,7 @@ public final class AvenueNods {
         int treesThatKnow() {
             int trees = 0;
             for (int tree = 0; tree < TREES; tree++) {
-                if (knownBy(tree) != 0) {
+                if (known[tree] != 0) {
                     trees++;
                 }
             }
@@ -817,35 +802,41 @@ public final class AvenueNods {
 
         void passYears(int n) {
             for (int i = 0; i < n; i++) {
-                passYear(0, MESSAGES);
+                passYear(ALL_MESSAGES);
             }
         }
 
-        /** A YEAR for some messages alone: no message bears on another, so a question about one needs no more. */
-        void passYear(int firstMessage, int endMessage) {
+        /** A YEAR for a set of messages: no message bears on another, so a question about one needs no more. */
+        void passYear(int messages) {
             for (int tree = 0; tree < TREES; tree++) {
                 ages[tree] = Math.min(ages[tree] + 1, OLDEST);
             }
             // What is learnt this YEAR can't be told on in it, as every LEANS and NODS is 1 or more: so the trees may
             // follow one another here, and each goes by what all KNEW as the YEAR began.
             for (int tree = 0; tree < TREES; tree++) {
-                listen(tree, firstMessage, endMessage);
+                listen(tree, messages);
             }
             year++;
         }
 
-        private void listen(int tree, int firstMessage, int endMessage) {
+        private void listen(int tree, int messages) {
             int below = tree - SIDES;
             int across = tree ^ 1;
-            boolean fromBelow = below >= 0 && hears(tree, false);
-            boolean fromAcross = isIntroduced(tree / SIDES) && hears(tree, true);
-            int leans = fromBelow ? leansOf(below) : 0;
-            int nods = fromAcross ? nodsOf(across) : 0;
-            for (int message = firstMessage; message < endMessage; message++) {
-                if (knows(tree, message)) {
-                    continue;
-                }
-                if ((fromBelow && knowsFor(below, message, leans)) || (fromAcross && knowsFor(across, message, nods))) {
+            int unheard = messages & ~known[tree];
+            int leant = below >= 0 ? unheard & known[below] : 0;
+            int nodded = isIntroduced(tree / SIDES) ? unheard & known[across] : 0;
+            if (leant != 0 && hears(tree, false)) {
+                takeFrom(tree, below, leant, leansOf(below));
+            }
+            if (nodded != 0 && hears(tree, true)) {
+                takeFrom(tree, across, nodded, nodsOf(across));
+            }
+        }
+
+        /** A TREE gets to KNOW those of the messages that a teller KNOWS for as many years as it waits. */
+        private void takeFrom(int tree, int teller, int messages, int waits) {
+            for (int message = 0; message < MESSAGES; message++) {
+                if ((messages >> message & 1) == 1 && year - learntWhen(teller, message) >= waits) {
                     learn(tree, message);
                 }
             }
@@ -874,7 +865,7 @@ public final class AvenueNods {
                 if (knows(treeAt(PLACES - 1, 0), message) || knows(treeAt(PLACES - 1, 1), message)) {
                     return years;
                 }
-                passYear(message, message + 1);
+                passYear(1 << message);
             }
             return TOO_LATE;
         }
