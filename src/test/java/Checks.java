@@ -10,12 +10,18 @@ final class Checks {
 
     private int checks = 0;
     private int wrong = 0;
+    /** The test that is under way, told ahead of what is wrong in it. */
+    private String about = "";
+
+    void about(String test) {
+        about = test + ": ";
+    }
 
     void due(String call, long got, long want) {
         checks++;
         if (got != want) {
             wrong++;
-            System.out.println(call + " answered " + got + ", due is " + want);
+            System.out.println(about + call + " answered " + got + ", due is " + want);
         }
     }
 
@@ -23,7 +29,7 @@ final class Checks {
         checks++;
         if (!holds) {
             wrong++;
-            System.out.println(what + " does not hold");
+            System.out.println(about + what + " does not hold");
         }
     }
 
