@@ -232,6 +232,25 @@ public final class EdgesOfBestTest extends Edges {
         due("delay(3), it must be the gale", x.delay(3), 1);
     }
 
+    /** TREE 11, a sapling set now, HEARS in YEAR 4, ON 5: a later gale gives it no more YEARS than there are. */
+    @Says("ON n YEARS (0 to 60) in all")
+    static void promise21NYearsInAllHoweverLateTheGale() {
+        State state = () -> {
+            AvenueNods x = cut();
+            for (int tree = 0; tree < 12; tree++) {
+                x.turn(tree, STUMP);
+            }
+            x.turn(9, LIME);
+            x.plant(11, SAPLING);
+            x.tell(9, 0);
+            return x;
+        };
+        asked(state, "when(11, 0)", x -> x.when(11, 0), 5);
+        asked(state, "delay(3), not in 3", x -> x.delay(3), 0);
+        asked(state, "delay(4), not in 4", x -> x.delay(4), 0);
+        asked(state, "delay(5), in 5 anyway", x -> x.delay(5), 0);
+    }
+
     // ---- promise 22
 
     @Says("MESSAGES 0 to 7")

@@ -532,6 +532,18 @@ public final class EdgesOfMessagesTest extends Edges {
         asked(() -> stumpTellsIn999(1000), "when(10, 0) in 1000", x -> x.when(10, 0), 0);
     }
 
+    @Says("MESSAGES 0 to 7")
+    static void promise15EachMessageGoesOn() {
+        for (int message = 0; message < 8; message++) {
+            AvenueNods x = new AvenueNods();
+            x.tell(0, message);
+            due("when(1, " + message + ")", x.when(1, message), 2);
+            due("when(11, " + message + ")", x.when(11, message), 17);
+            due("home(" + message + ")", x.home(message), 16);
+            due("last(" + message + ")", x.last(message), 11);
+        }
+    }
+
     @Says("first. BEYOND. NONE.")
     static void promise15NoneWhatIsNotIn200() {
         refusedIn(() -> stumpTellsIn999(799), "when(10, 0) in 799", x -> x.when(10, 0), NONE);
@@ -620,6 +632,15 @@ public final class EdgesOfMessagesTest extends Edges {
             y.tell(tree, 0);
         }
         due("TREE 0", y.last(0), 0);
+        for (int tree = 0; tree < 12; tree++) {
+            AvenueNods z = new AvenueNods();
+            for (int other = 0; other < 12; other++) {
+                if (other != tree) {
+                    z.tell(other, 0);
+                }
+            }
+            due("the one that doesn't KNOW it yet", z.last(0), tree);
+        }
     }
 
     @Says("MESSAGES 0 to 7")

@@ -163,6 +163,8 @@ public final class EdgesOfTextTest extends Edges {
         fault("cu", 0);
         fault("cu t 1", 0);
         fault("cut1cut", 4);
+        fault("cuta 1", 0);
+        fault("cutz 1", 0);
         fault("Cut 1", 0);
         fault("cuT 1", 0);
         fault("`cut 1", 0);
@@ -234,6 +236,8 @@ public final class EdgesOfTextTest extends Edges {
             fault(NAMES[kind] + "s at 5 1", 0);
             fault(NAMES[kind].substring(1) + " at 5 1", 0);
             fault(NAMES[kind].substring(0, NAMES[kind].length() - 1) + " at 5 1", 0);
+            fault("z" + NAMES[kind].substring(1) + " at 5 1", 0);
+            fault(NAMES[kind].substring(0, NAMES[kind].length() - 1) + "z at 5 1", 0);
             fault(NAMES[kind] + " 5 1", NAMES[kind].length() + 1);
             fault(NAMES[kind] + " age 5 1", NAMES[kind].length() + 1);
         }
@@ -270,6 +274,10 @@ public final class EdgesOfTextTest extends Edges {
         fault("lime at 0 1 age 1 1", 18);
         fault("lime at 0 1 1", 12);
         fault("lime at 0 1 aged 1", 12);
+        fault("lime at 0 1 ago 1", 12);
+        fault("lime at 0 1 ice 1", 12);
+        fault("lime it 0 1", 5);
+        fault("lime as 0 1", 5);
         fault("cut 1 age 1", 6);
         fault("word 1 1 age 1", 9);
         fault("age 1", 0);
@@ -307,6 +315,9 @@ public final class EdgesOfTextTest extends Edges {
         fault("meet 1000", 5);
         fault("cut 1 1", 6);
         fault("cut cut", 4);
+        fault("dut 1", 0);
+        fault("cup 1", 0);
+        fault("feet 1", 0);
         fault("cut at 1", 4);
     }
 
@@ -322,6 +333,8 @@ public final class EdgesOfTextTest extends Edges {
         fault("word 7 2", 7);
         fault("word 999 0", 5);
         fault("word a 0", 5);
+        fault("ford 0 0", 0);
+        fault("worn 0 0", 0);
         fault("word 0 a", 7);
         fault("word 0 0 0", 9);
     }

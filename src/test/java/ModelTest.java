@@ -98,6 +98,10 @@ public final class ModelTest {
             bookAndRead(names, asked);
             return;
         }
+        if (PICK.nextInt(150) == 0) {
+            manyYears(names, asked);
+            return;
+        }
         String[] all = FACE.keySet().toArray(new String[0]);
         String name = all[PICK.nextInt(all.length)];
         if ((name.equals("gale") || name.equals("years") || name.equals("forget")) && PICK.nextInt(3) != 0) {
@@ -114,6 +118,15 @@ public final class ModelTest {
         asked.add(new long[] {s, new int[] {8, 16, 64}[PICK.nextInt(3)], 1 + PICK.nextInt(40)});
         asked.add(new long[] {s, tree});
         asked.add(new long[] {s, tree, PICK.nextInt(4) == 0 ? PICK.nextInt(12) : tree ^ 1});
+    }
+
+    /** So that stumps tell, AGES end at 999, and YEAR comes near to 9999, and is refused beyond it. */
+    private static void manyYears(List<String> names, List<long[]> asked) {
+        int times = PICK.nextInt(4) == 0 ? 100 : 1 + PICK.nextInt(12);
+        for (int i = 0; i < times; i++) {
+            names.add("years");
+            asked.add(new long[] {PICK.nextInt(8) == 0 ? 99 : 100});
+        }
     }
 
     private static long[] arguments(String name, int wild) {
