@@ -17,15 +17,18 @@ import java.util.regex.Matcher;
 import java.util.regex.Pattern;
 
 /**
- * What the tests of the document's edges share. A test is a static method named after its promise (promise11..), with
- * the words of the document that it holds.
+ * What the tests share that go by the document's words. A test is a static method named after its promise (promise11..)
+ * or after the terms (terms..), with the words of the document that it holds.
  */
 class Edges {
     /** The words that a test holds: they stand in its promise's section of the document, or in the terms. */
     @Retention(RetentionPolicy.RUNTIME)
     @interface Says {
-        String value();
+        String[] value();
     }
+
+    /** Tests of the terms come ahead of those of promise 1. */
+    static final int TERMS = 0;
 
     interface Act {
         long said(AvenueNods x);
@@ -51,7 +54,7 @@ class Edges {
     static final int GRAFT = 5;
 
     private static final String[] FINDINGS = {"BEYOND", "FULL", "KIND", "NONE", "STATE", "MISSING", "SIZE"};
-    private static final Pattern NAME = Pattern.compile("promise(\\d+)[A-Z].*");
+    private static final Pattern NAME = Pattern.compile("(?:terms|promise(\\d+))[A-Z].*");
     private static final Path DOCUMENT = Path.of("../shared/DOC.md");
     private static final Checks C = new Checks();
     /** Which findings were met by the tests of the promise that is under way. */
@@ -60,16 +63,16 @@ class Edges {
     // ---- how the tests of a class are run
 
     static void runAll(Class<?> tests) throws Exception {
-        String document = Files.readString(DOCUMENT);
         for (Map.Entry<Integer, List<Method>> promise : byPromise(tests).entrySet()) {
-            String section = section(document, "## Promise " + promise.getKey() + ":");
+            String section = section(promise.getKey());
             MET.clear();
             for (Method test : promise.getValue()) {
                 C.about(test.getName());
-                Says says = test.getAnnotation(Says.class);
-                C.that("the words that it holds are told", says != null);
-                C.that("the document's having '" + (says == null ? "" : says.value()) + "'", says != null
-                    && (section.contains(says.value()) || section(document, "## Terms").contains(says.value())));
+                C.that("the words that it holds are told", wordsOf(test).length > 0);
+                for (String words : wordsOf(test)) {
+                    C.that("the document's having '" + words + "'",
+                        section.contains(words) || section(TERMS).contains(words));
+                }
                 run(test);
             }
             C.about("promise " + promise.getKey());
@@ -80,6 +83,11 @@ class Edges {
         C.end();
     }
 
+    static String[] wordsOf(Method test) {
+        Says says = test.getAnnotation(Says.class);
+        return says == null ? new String[0] : says.value();
+    }
+
     static Map<Integer, List<Method>> byPromise(Class<?> tests) {
         Map<Integer, List<Method>> found = new TreeMap<>();
         Method[] all = tests.getDeclaredMethods();
@@ -87,7 +95,8 @@ class Edges {
         for (Method test : all) {
             Matcher name = NAME.matcher(test.getName());
             if (name.matches()) {
-                found.computeIfAbsent(Integer.parseInt(name.group(1)), n -> new ArrayList<>()).add(test);
+                int promise = name.group(1) == null ? TERMS : Integer.parseInt(name.group(1));
+                found.computeIfAbsent(promise, n -> new ArrayList<>()).add(test);
             }
         }
         return found;
@@ -102,8 +111,10 @@ class Edges {
         }
     }
 
-    private static String section(String document, String head) {
-        int from = document.indexOf(head);
+    /** The section of the document that tells a promise, or the terms. */
+    static String section(int promise) throws Exception {
+        String document = Files.readString(DOCUMENT);
+        int from = document.indexOf(promise == TERMS ? "## Terms" : "## Promise " + promise + ":");
         if (from < 0) {
             return "";
         }
@@ -149,6 +160,7 @@ class Edges {
         want.merge("status(-1)", 1L, Long::sum);
         want.merge("status(" + which + ")", 1L, Long::sum);
         same(call, whole(x), want);
+        sheetsStay(state, call, act);
     }
 
     /** A call that is answered, and changes nothing. */
@@ -156,6 +168,26 @@ class Edges {
         AvenueNods x = state.made();
         C.due(call, act.said(x), answer);
         same(call, whole(x), whole(state.made()));
+        sheetsStay(state, call, act);
+    }
+
+    /** Asked of an object of its own, since whole() leaves too few of the 512 calls for all numbers of all sheets. */
+    private static void sheetsStay(State state, String call, Act act) {
+        AvenueNods x = state.made();
+        act.said(x);
+        same(call, sheetsOf(x), sheetsOf(state.made()));
+    }
+
+    /** Each number of each sheet, and how many bits it has: by what is left of one of 17 bits. */
+    private static Map<String, Long> sheetsOf(AvenueNods x) {
+        Map<String, Long> told = new LinkedHashMap<>();
+        for (int s = 0; s < 4; s++) {
+            for (int i = 0; i <= 40; i++) {
+                told.put("number " + i + " of sheet " + s, x.write(s, i, 70000));
+            }
+            told.put("what is left in sheet " + s, x.write(s, 0, 0));
+        }
+        return told;
     }
 
     /** A call that is answered, and changes these answers of whole() and no other (but those behind the text). */

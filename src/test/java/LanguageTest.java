@@ -20,6 +20,8 @@ public final class LanguageTest {
 
     public static void main(String[] args) throws Exception {
         face();
+        signatures();
+        interfaceSays();
         String code = withoutComments(Files.readString(SOURCE));
         words(code);
         objects(code);
@@ -68,6 +70,40 @@ public final class LanguageTest {
                 C.that(field + " is final if static", !Modifier.isStatic(modifiers) || Modifier.isFinal(modifiers));
             }
         }
+    }
+
+    /** Each promise bears the signature that the face tells. */
+    private static void signatures() throws Exception {
+        String document = Files.readString(DOCUMENT);
+        Matcher promise = Pattern.compile("## Promise (\\d+): (\\w+).*\n\n`([^`]*)`: ").matcher(document);
+        int promises = 0;
+        while (promise.find()) {
+            promises++;
+            C.due("promise " + promise.group(1) + "'s place", Integer.parseInt(promise.group(1)), promises);
+            C.that(promise.group(3) + " stands in the face", document.contains("public " + promise.group(3) + ";"));
+        }
+        C.due("promises", promises, 37);
+    }
+
+    /** The calls stand in the file in the document's order, with what the interface says ahead of them. */
+    private static void interfaceSays() throws Exception {
+        String source = Files.readString(SOURCE);
+        Matcher ahead = Pattern.compile("Ahead of the calls (.*) the interface says: (---- .*)\\.\n")
+            .matcher(Files.readString(DOCUMENT));
+        int from = 0;
+        int heads = 0;
+        while (ahead.find()) {
+            heads++;
+            int head = source.indexOf("// " + ahead.group(2) + "\n", from);
+            C.that(ahead.group(2) + " is said behind what stands ahead of it", head > from);
+            from = Math.max(head, from);
+            for (String name : ahead.group(1).replace("`", "").split(", ")) {
+                int call = source.indexOf((name.equals("write") ? "public long " : "public int ") + name + "(", from);
+                C.that(name + " stands behind " + ahead.group(2), call > from);
+                from = Math.max(call, from);
+            }
+        }
+        C.due("heads", heads, 6);
     }
 
     private static String told(Method method) {
